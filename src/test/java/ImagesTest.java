@@ -3,6 +3,8 @@ final class ImagesTest {
     public static void main(String[] args) {
         image();
         restore();
+        restoreOfRoadsAndTales();
+        restoreOfFewer();
         tell();
         check();
         count();
@@ -66,6 +68,69 @@ final class ImagesTest {
         Due.is("put(0, 2, 1): SHEETS stay as they were", x.put(0, 2, 1), 1);
         Due.is("move of 16 bits to 8: so do their bits", x.sheet(1, 8, 1) + x.move(0, 0, 1, 0, 1), 1 + Due.KIND);
         Due.is("told(3): what is told stays", x.told(3), 2);
+    }
+
+    private static void restoreOfRoadsAndTales() {
+        BelievedByYard x = Due.withPlaces(10, 11, 12, 13, 14, 15, 16);
+        setAll(x, 1);
+        for (int i = 0; i < 7; i++) {
+            x.tale(i * 11, 0, i);
+        }
+        setAll(x, 2);
+        x.image();
+        setAll(x, 3);
+        Due.is("restore()", x.restore(), 0);
+        for (int i = 0; i < 7; i++) {
+            Due.is("ofPlace(" + i + ", 0)", x.ofPlace(i, 0), 2 * i);
+            Due.is("ofTale(" + i + ", 0)", x.ofTale(i, 0), i);
+            Due.is("ofTale(" + i + ", 1)", x.ofTale(i, 1), i);
+            Due.is("ofTale(" + i + ", 3)", x.ofTale(i, 3), 20 + i);
+            for (int k = 0; k < i; k++) {
+                Due.is("between(" + i + ", " + k + ", 0)", x.between(i, k, 0), 2 * (7 * i + k));
+                Due.is("between(" + k + ", " + i + ", 0)", x.between(k, i, 0), 2 * (7 * i + k));
+                Due.is("between(" + i + ", " + k + ", 1)", x.between(i, k, 1), (i + k + 2) % 10);
+                Due.is("between(" + k + ", " + i + ", 1)", x.between(k, i, 1), (i + k + 2) % 10);
+            }
+        }
+    }
+
+    private static void setAll(BelievedByYard x, int times) {
+        for (int i = 0; i < 7; i++) {
+            x.doubt(i, times * i);
+            x.become(i, i * 11 + 2 - times);
+            x.change(i, 1, 10 * times + i);
+            for (int k = 0; k < i; k++) {
+                x.road(i, k, 0, times == 3 ? 0 : times * (7 * i + k));
+                x.road(i, k, 1, (i + k + times) % 10);
+            }
+        }
+    }
+
+    private static void restoreOfFewer() {
+        BelievedByYard x = Due.withPlaces(10);
+        x.image();
+        x.place(20);
+        x.road(0, 1, 0, 5);
+        x.road(0, 1, 1, 6);
+        x.tale(69, 255, 1);
+        x.change(0, 1, 70);
+        x.change(0, 3, 80);
+        Due.text(x, 0, "b");
+        Due.text(x, 1, "0");
+        x.restore();
+        Due.is("ofPlace(1, 0)", x.ofPlace(1, 0), Due.BEYOND);
+        Due.is("ofTale(0, 0)", x.ofTale(0, 0), Due.BEYOND);
+        Due.is("law(0, 5, 6, 7)", x.law(0, 5, 6, 7), 11);
+        Due.is("law(1, 5, 6, 7)", x.law(1, 5, 6, 7), 1);
+        Due.is("place(30)", x.place(30), 1);
+        Due.is("ofPlace(1, 0)", x.ofPlace(1, 0), 30);
+        Due.is("between(0, 1, 0)", x.between(0, 1, 0), 0);
+        Due.is("between(0, 1, 1)", x.between(0, 1, 1), 0);
+        Due.is("tale(0, 1, 0)", x.tale(0, 1, 0), 0);
+        int[] due = {0, 0, 1, 0, 0, 0, 0};
+        for (int what = 0; what < due.length; what++) {
+            Due.is("ofTale(0, " + what + ")", x.ofTale(0, what), due[what]);
+        }
     }
 
     /** Changes all that an IMAGE keeps, and some that it doesn't. */

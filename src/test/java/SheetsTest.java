@@ -43,8 +43,10 @@ final class SheetsTest {
         Due.is("sheet(4, 8, -1): BEYOND of the SHEET is asked first", x.sheet(4, 8, -1), Due.BEYOND);
         Due.is("sheet(-1, 8, 1)", x.sheet(-1, 8, 1), Due.BEYOND);
         Due.isTrue("the SHEET after ERRORS", has(x, 1, 2, 16, 9));
+        x.put(1, 0, 8);
         x.sheet(1, 16, 3);
-        Due.isTrue("all 0 when made anew", has(x, 1, 2, 16, 0));
+        Due.isTrue("the last is 0 when made anew", has(x, 1, 2, 16, 0));
+        Due.isTrue("the first, too", has(x, 1, 0, 16, 0));
         Due.is("sheet(1, 0, -5): n doesn't matter", x.sheet(1, 0, -5), 1);
         Due.is("put(1, 0, 1) on a missing one", x.put(1, 0, 1), Due.NONE);
         Due.is("sheet(1, 0, 500)", x.sheet(1, 0, 500), 1);

@@ -167,6 +167,10 @@ final class StepsTest {
         Due.is("loose(40)", x.loose(40), Due.STATE);
         Due.is("loose(61): BEYOND is asked first", x.loose(61), Due.BEYOND);
         Due.is("count(9) after ERRORS", x.count(9), z);
+        x.image();
+        Due.isTrue("loose(39) up to 9999", x.loose(39) >= 0);
+        Due.is("count(2)", x.count(2), 9999);
+        x.restore();
         Due.isTrue("loose(38)", x.loose(38) >= 0);
         int at = x.ofTale(0, 4);
         Due.is("go at 9998", x.go(0, 1 - at), 1);
