@@ -1,22 +1,29 @@
 /** What the tests share: each call is named, with what it answered and what is due. */
 final class Due {
-    static final int BEYOND = -1000000001;
-    static final int NONE = -1000000002;
-    static final int STATE = -1000000003;
-    static final int FULL = -1000000004;
-    static final int KIND = -1000000005;
+    static final int LOW = -1000000000;
+    static final int BEYOND = LOW - 1;
+    static final int NONE = LOW - 2;
+    static final int STATE = LOW - 3;
+    static final int FULL = LOW - 4;
+    static final int KIND = LOW - 5;
 
     private static int asked;
     private static int wrong;
+    private static String about = "";
 
     private Due() {
+    }
+
+    /** What the calls from here on are about; it stands ahead of each that is wrong. */
+    static void about(String what) {
+        about = what + ": ";
     }
 
     static void is(String call, long got, long want) {
         asked++;
         if (got != want) {
             wrong++;
-            System.out.println(call + " answered " + got + ", due is " + want);
+            System.out.println(about + call + " answered " + got + ", due is " + want);
         }
     }
 

@@ -1,19 +1,23 @@
-import java.util.Arrays;
 import java.util.Random;
 
 /**
- * Any arguments in any state: no call throws, and one that answers an ERROR changes nothing but
- * what told() tells, by one. (More calls to an object than the document promises for: this class
- * answers them all the same.)
+ * Any arguments in any state: no call throws, and those that answer ERRORS change nothing but what
+ * told() tells: an object that is spared them answers all other calls alike and is like it at last.
  */
 final class ErrorsTest {
     private static final int CALLS = 40;
+    private static final int LAW = 10;
+    private static final int SEED = 24;
+    private static final int VOICE = 25;
+    private static final int COUNT = 37;
+    private static final int TOLD = 39;
+    private static final String SIGNS = "bydm123+-*/%()!<=>|&";
     private static final int[] EDGES = {Integer.MIN_VALUE, Integer.MIN_VALUE + 1, -1000000001, -256, -2, -1, 0, 1, 2,
         3, 4, 5, 6, 7, 8, 9, 10, 16, 20, 32, 39, 40, 41, 49, 50, 59, 60, 61, 69, 70, 99, 100, 255, 256, 9998, 9999,
         10000, Integer.MAX_VALUE - 1, Integer.MAX_VALUE};
 
     public static void main(String[] args) {
-        for (int run = 0; run < 600; run++) {
+        for (int run = 0; run < 3000; run++) {
             manyCalls(new Random(run), run);
         }
         Due.end();
@@ -21,27 +25,32 @@ final class ErrorsTest {
 
     private static void manyCalls(Random random, int run) {
         BelievedByYard x = new BelievedByYard();
-        for (int n = 0; n < 150; n++) {
+        BelievedByYard spared = new BelievedByYard();
+        int[] refused = new int[6];
+        for (int n = 0; n < 140; n++) {
             int which = random.nextInt(4) == 0 ? random.nextInt(12) : random.nextInt(CALLS);
             int[] v = new int[5];
             for (int i = 0; i < 5; i++) {
                 v[i] = number(random);
             }
-            int[] before = seen(x);
-            int[] told = told(x);
+            int tales = which == VOICE ? spared.count(1) : 0;
+            String name = "run " + run + ", call " + n + " of " + which;
             int answer = call(x, which, v);
-            if (isError(answer, which, v)) {
-                int other = Arrays.mismatch(before, seen(x));
-                Due.is("run " + run + ", call " + n + " of " + which + ": what is seen, the first other one", other, -1);
-                int[] then = told(x);
-                for (int k = 0; k < 5; k++) {
-                    // what seen() and told() themselves ask for is always the same
-                    int more = then[k] - told[k] - asked(before, k + 1);
-                    Due.is("run " + run + ", call " + n + " of " + which + ": told(" + (k + 1) + ")", more,
-                        -1000000000 - answer == k + 1 ? 1 : 0);
-                }
+            if (isError(answer, which, v, tales)) {
+                boolean is = answer >= Due.KIND && answer <= Due.BEYOND;
+                Due.isTrue(name + " answers one of the ERRORS: " + answer, is);
+                refused[is ? Due.LOW - answer : 0]++;
+            } else if (which == TOLD) {
+                Due.is(name, answer, refused[v[0]]);
+            } else {
+                Due.is(name + ": the one that is spared ERRORS", call(spared, which, v), answer);
             }
         }
+        int[] told = Seen.told(x);
+        for (int k = 1; k <= 5; k++) {
+            Due.is("run " + run + ": told(" + k + ")", told[k - 1], refused[k]);
+        }
+        Due.isTrue("run " + run + ": it is like the one that is spared", Seen.of(x).equals(Seen.of(spared)));
     }
 
     private static int number(Random random) {
@@ -53,10 +62,15 @@ final class ErrorsTest {
         }
     }
 
-    /** What may answer any number is left out: text's FAULTS are above all ERRORS. */
-    private static boolean isError(int answer, int which, int[] v) {
-        boolean any = which == 10 || which == 24 || which == 25 || (which == 37 && v[0] == 9);
-        return answer < -1000000000 && !any;
+    /** Some acts may answer any number: then their arguments tell whether it is an ERROR. */
+    private static boolean isError(int answer, int which, int[] v, int tales) {
+        switch (which) {
+            case LAW: return v[0] < 0 || v[0] > 1;
+            case SEED: return false;
+            case VOICE: return v[0] < 0 || v[0] >= tales || v[1] < 0 || v[1] > 3;
+            case COUNT: return v[0] != 9 && answer < Due.LOW;
+            default: return answer < Due.LOW;
+        }
     }
 
     private static int call(BelievedByYard x, int which, int[] v) {
@@ -70,7 +84,7 @@ final class ErrorsTest {
             case 6: return x.road(v[0] % 7, v[1] % 7, 0, v[2]);
             case 7: return x.become(v[0], v[1]);
             case 8: return x.go(v[0], v[1]);
-            case 9: return x.feed("bydm123+-*/%()!<=>|&".charAt(v[0] & 15) | (long) v[1] << 8, v[2]);
+            case 9: return x.feed(SIGNS.charAt(Math.floorMod(v[0], SIGNS.length())) | (long) v[1] << 8, v[2]);
             case 10: return x.law(v[0], v[1], v[2], v[3]);
             case 11: return x.text(v[0]);
             case 12: return x.doubt(v[0], v[1]);
@@ -108,49 +122,5 @@ final class ErrorsTest {
             case 38: return v[0] == 3 ? x.image() : x.restore();
             default: return x.told(v[0]);
         }
-    }
-
-    private static int[] told(BelievedByYard x) {
-        int[] told = new int[5];
-        for (int k = 0; k < 5; k++) {
-            told[k] = x.told(k + 1);
-        }
-        return told;
-    }
-
-    /** How many of the answers of seen() are this ERROR. */
-    private static int asked(int[] seen, int k) {
-        int asked = 0;
-        for (int i = 1; i < seen.length; i++) {
-            asked += seen[i] == -1000000000 - k ? 1 : 0;
-        }
-        return asked;
-    }
-
-    /** All that can be seen without changing it. The first, z, may be any number. */
-    private static int[] seen(BelievedByYard x) {
-        int[] seen = new int[256];
-        int n = 0;
-        seen[n++] = x.count(9);
-        for (int what = 0; what <= 8; what++) {
-            seen[n++] = x.count(what);
-        }
-        for (int i = 0; i < 7; i++) {
-            for (int what = 0; what <= 6; what++) {
-                seen[n++] = x.ofTale(i, what);
-            }
-            seen[n++] = x.ofPlace(i, 0);
-            for (int k = 0; k < i; k++) {
-                seen[n++] = x.between(i, k, 0);
-                seen[n++] = x.between(i, k, 1);
-            }
-        }
-        for (int i = 0; i < 4; i++) {
-            seen[n++] = x.judge(i);
-            seen[n++] = x.trace(i);
-            seen[n++] = x.from(i, 0, 0);
-        }
-        seen[n++] = x.law(1, 5, 6, 7);
-        return seen;
     }
 }

@@ -9,14 +9,23 @@ import java.util.TreeSet;
  */
 final class ModelTest {
     private static final String[] GROWING = {"", "b*3-y+p", "(b+1)%5+2", "b/2+y*p", "7", "b+(y%2=0)*y"};
+    private static final int KIND = 0;
+    private static final int M = 1;
+    private static final int MARKS = 2;
+    private static final int YARDS = 3;
+    private static final int AT = 4;
     private static final String[] SOUNDING = {"", "b%3", "d<b|m>6", "b>99&d>2", "0"};
 
-    private final BelievedByYard x = new BelievedByYard();
     private final Random random;
+    private final int[] doubts = new int[7];
+    private final int[][] roads = new int[7][7];
+    private final int[][] tolls = new int[7][7];
+    private final int[][] parts = new int[7][];
     private int places;
     private int tales;
     private int growing;
     private int sounding;
+    private BelievedByYard x;
 
     private ModelTest(long seed) {
         random = new Random(seed);
@@ -35,25 +44,43 @@ final class ModelTest {
         places = 1 + random.nextInt(7);
         int most = random.nextInt(3) == 0 ? 100 : 30;
         for (int i = 0; i < places; i++) {
-            x.place(random.nextInt(most));
+            doubts[i] = random.nextInt(most);
         }
         int dense = 1 + random.nextInt(4);
         int longest = random.nextBoolean() ? 99 : 6;
         for (int i = 0; i < places; i++) {
             for (int k = 0; k < i; k++) {
-                if (random.nextInt(4) < dense) {
-                    x.road(i, k, 0, 1 + random.nextInt(longest));
-                }
-                x.road(i, k, 1, random.nextInt(10) * random.nextInt(2));
+                roads[i][k] = random.nextInt(4) < dense ? 1 + random.nextInt(longest) : 0;
+                roads[k][i] = roads[i][k];
+                tolls[i][k] = random.nextInt(10) * random.nextInt(2);
+                tolls[k][i] = tolls[i][k];
             }
         }
         tales = random.nextInt(8);
         for (int i = 0; i < tales; i++) {
-            x.tale(random.nextInt(70), random.nextInt(256), random.nextInt(places));
-            x.change(i, 1, random.nextInt(3) * random.nextInt(60));
+            parts[i] = new int[] {random.nextInt(7), random.nextInt(10), random.nextInt(256),
+                random.nextInt(3) * random.nextInt(60), random.nextInt(places)};
         }
         growing = random.nextInt(GROWING.length);
         sounding = random.nextInt(SOUNDING.length);
+    }
+
+    /** An object is promised for 512 calls: so there is a new one for each TALE that is asked for. */
+    private void build() {
+        x = new BelievedByYard();
+        for (int i = 0; i < places; i++) {
+            x.place(doubts[i]);
+            for (int k = 0; k < i; k++) {
+                if (roads[i][k] > 0) {
+                    x.road(i, k, 0, roads[i][k]);
+                }
+                x.road(k, i, 1, tolls[i][k]);
+            }
+        }
+        for (int i = 0; i < tales; i++) {
+            x.tale(parts[i][KIND] * 10 + parts[i][M], parts[i][MARKS], parts[i][AT]);
+            x.change(i, 1, parts[i][YARDS]);
+        }
         if (growing > 0) {
             Due.is("text(0)", Due.text(x, 0, GROWING[growing]), 1);
         }
@@ -104,19 +131,19 @@ final class ModelTest {
     }
 
     private boolean believed(int tale, int marks, int yards, int place) {
-        int d = x.ofPlace(place, 0);
-        return yards >= d && sounds(marks, d, x.ofTale(tale, 1));
+        int d = doubts[place];
+        return yards >= d && sounds(marks, d, parts[tale][M]);
     }
 
     private boolean believedThere(int tale, int place) {
-        return believed(tale, x.ofTale(tale, 2), x.ofTale(tale, 3), place);
+        return believed(tale, parts[tale][MARKS], parts[tale][YARDS], place);
     }
 
     /** All ROWS of n STEPS, the first by PLACES first: the PLACES, then MARKS at each, then YARDS. */
     private List<int[][]> rows(int tale, int n) {
         List<int[][]> rows = new ArrayList<>();
         int[] at = new int[n + 1];
-        at[0] = x.ofTale(tale, 4);
+        at[0] = parts[tale][AT];
         list(tale, at, 1, rows);
         return rows;
     }
@@ -128,7 +155,7 @@ final class ModelTest {
         }
         for (int i = 0; i < places; i++) {
             at[length] = i;
-            if (i != at[length - 1] && x.between(at[length - 1], i, 0) > 0) {
+            if (roads[at[length - 1]][i] > 0) {
                 list(tale, at, length + 1, rows);
             }
         }
@@ -137,13 +164,13 @@ final class ModelTest {
     private int[][] walked(int tale, int[] at) {
         int[] marks = new int[at.length];
         int[] yards = new int[at.length];
-        int kind = x.ofTale(tale, 0);
-        marks[0] = x.ofTale(tale, 2);
-        yards[0] = x.ofTale(tale, 3);
+        int kind = parts[tale][KIND];
+        marks[0] = parts[tale][MARKS];
+        yards[0] = parts[tale][YARDS];
         for (int i = 1; i < at.length; i++) {
-            int y = x.between(at[i - 1], at[i], 0);
+            int y = roads[at[i - 1]][at[i]];
             marks[i] = grown(kind, marks[i - 1], y, at[i - 1]);
-            yards[i] = Math.min(9999, yards[i - 1] + walks(kind, x.ofTale(tale, 1), y));
+            yards[i] = Math.min(9999, yards[i - 1] + walks(kind, parts[tale][M], y));
         }
         return new int[][] {at.clone(), marks, yards};
     }
@@ -152,12 +179,14 @@ final class ModelTest {
 
     private void askAll(int run) {
         for (int t = 0; t < tales; t++) {
+            build();
             askRows("run " + run + ", TALE " + t + ": ", t);
             askFrom("run " + run + ", TALE " + t + ": ", t);
             askCheap("run " + run + ", TALE " + t + ": ", t);
             askCan("run " + run + ", TALE " + t + ": ", t);
             askOne("run " + run + ", TALE " + t + ": ", t);
         }
+        build();
         askBest("run " + run + ": ");
         askGo("run " + run + ": ");
     }
@@ -223,35 +252,35 @@ final class ModelTest {
 
     private void askCheap(String who, int t) {
         int[][] best = new int[places][];
-        ways(x.ofTale(t, 4), 0, 0, 0, best);
+        ways(parts[t][AT], 0, 0, 0, best);
         for (int p = 0; p < places; p++) {
             Due.is(who + "cheap(" + p + ", 0)", x.cheap(t, p, 0), best[p] == null ? Due.NONE : best[p][0]);
             Due.is(who + "cheap(" + p + ", 1)", x.cheap(t, p, 1), best[p] == null ? Due.NONE : best[p][1]);
         }
     }
 
-    private void ways(int at, int been, int tolls, int yards, int[][] best) {
+    private void ways(int at, int been, int toll, int yards, int[][] best) {
         int[] b = best[at];
-        if (b == null || tolls < b[0] || (tolls == b[0] && yards < b[1])) {
-            best[at] = new int[] {tolls, yards};
+        if (b == null || toll < b[0] || (toll == b[0] && yards < b[1])) {
+            best[at] = new int[] {toll, yards};
         }
         for (int i = 0; i < places; i++) {
-            if (i != at && (been >> i & 1) == 0 && x.between(at, i, 0) > 0) {
-                ways(i, been | 1 << at, tolls + x.between(at, i, 1), yards + x.between(at, i, 0), best);
+            if ((been >> i & 1) == 0 && roads[at][i] > 0) {
+                ways(i, been | 1 << at, toll + tolls[at][i], yards + roads[at][i], best);
             }
         }
     }
 
     private void askCan(String who, int t) {
         boolean[] at = new boolean[7];
-        at[x.ofTale(t, 4)] = true;
+        at[parts[t][AT]] = true;
         for (int n = 0; n <= 60; n++) {
             int set = 0;
             boolean[] then = new boolean[7];
             for (int i = 0; i < places; i++) {
                 set += at[i] ? 1 << i : 0;
                 for (int k = 0; k < places; k++) {
-                    then[k] |= at[i] && i != k && x.between(i, k, 0) > 0;
+                    then[k] |= at[i] && roads[i][k] > 0;
                 }
             }
             if (n < 6 || n > 57) {
@@ -276,13 +305,13 @@ final class ModelTest {
         for (int i = 0; i < tales; i++) {
             int bits = 0;
             for (int k = 0; k < 8; k++) {
-                bits += (x.ofTale(i, 2) >> k & 1) != (x.ofTale(t, 2) >> k & 1) ? 1 : 0;
+                bits += (parts[i][MARKS] >> k & 1) != (parts[t][MARKS] >> k & 1) ? 1 : 0;
             }
             own += i != t && bits < 3 ? 1 << i : 0;
         }
         Due.is(who + "own()", x.own(t), own);
-        int there = x.ofTale(t, 4);
-        int late = x.ofPlace(there, 0) - x.ofTale(t, 3);
+        int there = parts[t][AT];
+        int late = doubts[there] - parts[t][YARDS];
         Due.is(who + "late()", x.late(t), late > 0 ? late : 0);
         Due.is(who + "ofTale(6)", x.ofTale(t, 6), believedThere(t, there) ? 1 : 0);
     }
@@ -296,7 +325,7 @@ final class ModelTest {
             int fame = 0;
             int set = 0;
             for (int t = 0; t < tales; t++) {
-                boolean there = x.ofTale(t, 4) == p;
+                boolean there = parts[t][AT] == p;
                 would += believedThere(t, p) ? 1 : 0;
                 fame += there && believedThere(t, p) ? 1 : 0;
                 set += there ? 1 << t : 0;
@@ -316,12 +345,12 @@ final class ModelTest {
 
     private void askGo(String who) {
         for (int t = 0; t < tales; t++) {
-            int at = x.ofTale(t, 4);
+            int at = parts[t][AT];
             int p = random.nextInt(places);
-            int y = p == at ? 0 : x.between(at, p, 0);
-            int marks = grown(x.ofTale(t, 0), x.ofTale(t, 2), y, at);
-            int yards = x.ofTale(t, 3) + walks(x.ofTale(t, 0), x.ofTale(t, 1), y);
-            int costs = x.ofTale(t, 5) + (y > 0 ? x.between(at, p, 1) : 0);
+            int y = roads[at][p];
+            int marks = grown(parts[t][KIND], parts[t][MARKS], y, at);
+            int yards = parts[t][YARDS] + walks(parts[t][KIND], parts[t][M], y);
+            int costs = tolls[at][p];
             if (y == 0) {
                 Due.is(who + "go(" + t + ", " + p + ")", x.go(t, p), Due.STATE);
                 continue;

@@ -6,20 +6,26 @@ final class RoomTest {
         (com.sun.management.ThreadMXBean) ManagementFactory.getThreadMXBean();
 
     public static void main(String[] args) {
-        BelievedByYard x = full();
-        all(x, 2);
+        BelievedByYard[] made = new BelievedByYard[12];
+        for (int i = 0; i < made.length; i++) {
+            made[i] = full();
+        }
+        all(made[0]);
+        all(made[1]);
         long before = ROOM.getThreadAllocatedBytes(Thread.currentThread().getId());
-        all(x, 20);
+        for (int i = 2; i < made.length; i++) {
+            all(made[i]);
+            all(made[i]);
+        }
         long bytes = ROOM.getThreadAllocatedBytes(Thread.currentThread().getId()) - before;
         Due.isTrue("calls make next to nothing: " + bytes + " bytes", bytes < 20000);
-        BelievedByYard[] made = new BelievedByYard[100];
         before = ROOM.getThreadAllocatedBytes(Thread.currentThread().getId());
         for (int i = 0; i < made.length; i++) {
             made[i] = new BelievedByYard();
         }
         bytes = (ROOM.getThreadAllocatedBytes(Thread.currentThread().getId()) - before) / made.length;
         Due.isTrue("an object takes little: " + bytes + " bytes", bytes < 10000);
-        Due.is("the last one is new", made[99].count(9), 1);
+        Due.is("the last one is new", made[11].count(9), 1);
         Due.end();
     }
 
@@ -38,29 +44,27 @@ final class RoomTest {
         return x;
     }
 
-    private static void all(BelievedByYard x, int times) {
-        for (int n = 0; n < times; n++) {
-            for (int t = 0; t < 7; t++) {
-                x.reach(t, (t + 1) % 7, 2);
-                x.round(t);
-                x.marked(t, 4);
-                x.can(t, 60);
-                x.cheap(t, (t + 3) % 7, 1);
-                x.voice(t, 3, 5);
-                x.own(t);
-                x.odds(t, 1);
-            }
-            x.sheet(0, 16, 5);
-            x.from(0, 0, 1);
-            x.best(1);
-            x.loose(3);
-            x.image();
-            x.restore();
-            x.tell(n);
-            x.check();
-            x.feed(0x622b62L, 3);
-            x.text(2);
-            x.told(9);
+    private static void all(BelievedByYard x) {
+        for (int t = 0; t < 7; t++) {
+            x.reach(t, (t + 1) % 7, 2);
+            x.round(t);
+            x.marked(t, 4);
+            x.can(t, 60);
+            x.cheap(t, (t + 3) % 7, 1);
+            x.voice(t, 3, 5);
+            x.own(t);
+            x.odds(t, 1);
         }
+        x.sheet(0, 16, 5);
+        x.from(0, 0, 1);
+        x.best(1);
+        x.loose(3);
+        x.image();
+        x.restore();
+        x.tell(5);
+        x.check();
+        x.feed(0x622b62L, 3);
+        x.text(2);
+        x.told(9);
     }
 }

@@ -9,14 +9,6 @@ final class SheetsTest {
         Due.end();
     }
 
-    /** A number of a SHEET, seen through judge(): YARDS of TALE 0 that are so. */
-    private static boolean has(BelievedByYard x, int sheet, int i, int bits, int v) {
-        x.sheet(3, bits, 1);
-        Due.is("move to look", x.move(sheet, i, 3, 0, 1), 1);
-        x.change(0, 1, v);
-        return x.judge(3) == -1;
-    }
-
     private static BelievedByYard withTale() {
         BelievedByYard x = Due.withPlaces(0);
         x.tale(0, 0, 0);
@@ -27,7 +19,7 @@ final class SheetsTest {
         BelievedByYard x = withTale();
         for (int bits : new int[] {8, 16, 32}) {
             Due.is("sheet(0, " + bits + ", 40)", x.sheet(0, bits, 40), 1);
-            Due.isTrue("its last number is 0", has(x, 0, 39, bits, 0));
+            Due.isTrue("its last number is 0", Worlds.has(x, 0, 39, bits, 0));
             Due.is("put(0, 40, 1)", x.put(0, 40, 1), Due.BEYOND);
             Due.is("sheet(0, " + bits + ", 0)", x.sheet(0, bits, 0), 1);
             Due.is("put(0, 0, 1) with no number", x.put(0, 0, 1), Due.BEYOND);
@@ -42,11 +34,11 @@ final class SheetsTest {
         Due.is("sheet(1, -8, 1)", x.sheet(1, -8, 1), Due.BEYOND);
         Due.is("sheet(4, 8, -1): BEYOND of the SHEET is asked first", x.sheet(4, 8, -1), Due.BEYOND);
         Due.is("sheet(-1, 8, 1)", x.sheet(-1, 8, 1), Due.BEYOND);
-        Due.isTrue("the SHEET after ERRORS", has(x, 1, 2, 16, 9));
+        Due.isTrue("the SHEET after ERRORS", Worlds.has(x, 1, 2, 16, 9));
         x.put(1, 0, 8);
         x.sheet(1, 16, 3);
-        Due.isTrue("the last is 0 when made anew", has(x, 1, 2, 16, 0));
-        Due.isTrue("the first, too", has(x, 1, 0, 16, 0));
+        Due.isTrue("the last is 0 when made anew", Worlds.has(x, 1, 2, 16, 0));
+        Due.isTrue("the first, too", Worlds.has(x, 1, 0, 16, 0));
         Due.is("sheet(1, 0, -5): n doesn't matter", x.sheet(1, 0, -5), 1);
         Due.is("put(1, 0, 1) on a missing one", x.put(1, 0, 1), Due.NONE);
         Due.is("sheet(1, 0, 500)", x.sheet(1, 0, 500), 1);
@@ -65,20 +57,20 @@ final class SheetsTest {
         Due.is("put(0, 2, 1)", x.put(0, 2, 1), Due.BEYOND);
         Due.is("put(0, -1, 1)", x.put(0, -1, 1), Due.BEYOND);
         Due.is("put(0, 1, 256 + 100)", x.put(0, 1, 356), 1);
-        Due.isTrue("8 bits of it", has(x, 0, 1, 8, 100));
+        Due.isTrue("8 bits of it", Worlds.has(x, 0, 1, 8, 100));
         Due.is("put(1, 1, 65536 + 9000)", x.put(1, 1, 74536), 1);
-        Due.isTrue("16 bits of it", has(x, 1, 1, 16, 9000));
+        Due.isTrue("16 bits of it", Worlds.has(x, 1, 1, 16, 9000));
         Due.is("put(1, 1, 356)", x.put(1, 1, 356), 1);
-        Due.isTrue("16 bits of it", has(x, 1, 1, 16, 356));
+        Due.isTrue("16 bits of it", Worlds.has(x, 1, 1, 16, 356));
         Due.is("put(2, 1, 9999)", x.put(2, 1, 9999), 1);
-        Due.isTrue("32 bits of it", has(x, 2, 1, 32, 9999));
+        Due.isTrue("32 bits of it", Worlds.has(x, 2, 1, 32, 9999));
         x.put(2, 1, 65536);
-        Due.isTrue("32 bits hold more than 16", !has(x, 2, 1, 32, 0));
+        Due.isTrue("32 bits hold more than 16", !Worlds.has(x, 2, 1, 32, 0));
         x.put(2, 1, -1);
-        Due.isTrue("-1 stays what it is", !has(x, 2, 1, 32, 255));
+        Due.isTrue("-1 stays what it is", !Worlds.has(x, 2, 1, 32, 255));
         x.put(0, 1, 200);
-        Due.isTrue("8 bits have a sign, as Java's byte has", !has(x, 0, 1, 8, 200));
-        Due.isTrue("number 0 is still 0", has(x, 0, 0, 8, 0));
+        Due.isTrue("8 bits have a sign, as Java's byte has", !Worlds.has(x, 0, 1, 8, 200));
+        Due.isTrue("number 0 is still 0", Worlds.has(x, 0, 0, 8, 0));
     }
 
     private static void move() {
@@ -91,17 +83,17 @@ final class SheetsTest {
         }
         Due.is("move(0, 1, 1, 0, 3)", x.move(0, 1, 1, 0, 3), 3);
         for (int i = 0; i < 3; i++) {
-            Due.isTrue("number " + i, has(x, 1, i, 16, 11 + i));
+            Due.isTrue("number " + i, Worlds.has(x, 1, i, 16, 11 + i));
         }
         Due.is("move(0, 0, 0, 1, 4): on itself, forward", x.move(0, 0, 0, 1, 4), 4);
         int[] forward = {10, 10, 11, 12, 13};
         for (int i = 0; i < 5; i++) {
-            Due.isTrue("forward number " + i, has(x, 0, i, 16, forward[i]));
+            Due.isTrue("forward number " + i, Worlds.has(x, 0, i, 16, forward[i]));
         }
         Due.is("move(0, 2, 0, 0, 3): on itself, back", x.move(0, 2, 0, 0, 3), 3);
         int[] back = {11, 12, 13, 12, 13};
         for (int i = 0; i < 5; i++) {
-            Due.isTrue("back number " + i, has(x, 0, i, 16, back[i]));
+            Due.isTrue("back number " + i, Worlds.has(x, 0, i, 16, back[i]));
         }
         x.sheet(3, 0, 0);
         int[][] rows = { // sheet, i, other, j, n, due
@@ -121,7 +113,7 @@ final class SheetsTest {
         }
         int[] then = {11, 12, 13};
         for (int i = 0; i < 3; i++) {
-            Due.isTrue("number " + i + " after ERRORS", has(x, 1, i, 16, then[i]));
+            Due.isTrue("number " + i + " after ERRORS", Worlds.has(x, 1, i, 16, then[i]));
         }
     }
 

@@ -10,18 +10,6 @@ final class StepsTest {
         Due.end();
     }
 
-    /** One ROAD of y YARDS from PLACE 2 to PLACE 3, gone by a TALE with MARKS b. */
-    private static BelievedByYard gone(int km, int b, int y, String text) {
-        BelievedByYard x = Due.withPlaces(0, 0, 0, 0);
-        x.road(2, 3, 0, y);
-        x.tale(km, b, 2);
-        if (!text.isEmpty()) {
-            Due.is("text(0) of " + text, Due.text(x, 0, text), 1);
-        }
-        Due.is("go(0, 3)", x.go(0, 3), 1);
-        return x;
-    }
-
     private static void marksThatGrow() {
         int[][] rows = { // km, b, y, MARKS then
             {0, 250, 10, 4}, {10, 250, 10, 5}, {10, 3, 4, 7}, {20, 250, 10, 0}, {20, 0, 8, 9}, {20, 0, 9, 11},
@@ -29,7 +17,7 @@ final class StepsTest {
             {50, 0, 8, 246}, {60, 250, 10, 250}, {60, 251, 10, 250}, {39, 251, 10, 251},
         };
         for (int[] r : rows) {
-            Due.is("MARKS of " + r[0] + " by " + r[1] + " behind " + r[2], gone(r[0], r[1], r[2], "").ofTale(0, 2), r[3]);
+            Due.is("MARKS of " + r[0] + " by " + r[1] + " behind " + r[2], Worlds.gone(r[0], r[1], r[2], "").ofTale(0, 2), r[3]);
         }
         String[] texts = {"b*3-y", "p", "y", "0-1", "300", "b+p*16"};
         int[] given = {300 - 12, 2, 12, -1, 300, 100 + 32};
@@ -38,7 +26,7 @@ final class StepsTest {
             int turned = low ^ 16;
             int[] due = {low, low | 1, turned, 100, low | 129, 255 - turned, 100};
             for (int kind = 0; kind <= 6; kind++) {
-                Due.is("MARKS of KIND " + kind + " by " + texts[i], gone(kind * 10, 100, 12, texts[i]).ofTale(0, 2), due[kind]);
+                Due.is("MARKS of KIND " + kind + " by " + texts[i], Worlds.gone(kind * 10, 100, 12, texts[i]).ofTale(0, 2), due[kind]);
             }
         }
     }
@@ -50,7 +38,7 @@ final class StepsTest {
             {69, 10, 1},
         };
         for (int[] r : rows) {
-            Due.is("YARDS of " + r[0] + " for " + r[1], gone(r[0], 0, r[1], "").ofTale(0, 3), r[2]);
+            Due.is("YARDS of " + r[0] + " for " + r[1], Worlds.gone(r[0], 0, r[1], "").ofTale(0, 3), r[2]);
         }
     }
 
@@ -114,11 +102,10 @@ final class StepsTest {
                 }
             }
         }
-        // the STEPS by draws once more, by go() on another object
-        BelievedByYard y = Due.withPlaces(0);
+        // the same STEPS by go(), taken back each time
         int z = x.count(9);
         int wentInAll = 0;
-        for (int turn = 0; turn < 40; turn++) {
+        for (int turn = 0; turn < 28; turn++) {
             z = z * 1103515245 + 12345;
             int tale = (z >>> 8) % 7;
             z = z * 1103515245 + 12345;
@@ -137,8 +124,7 @@ final class StepsTest {
             }
             wentInAll += goes ? 1 : 0;
         }
-        Due.isTrue("some went, some did not", wentInAll > 5 && wentInAll < 40);
-        Due.is("a fresh object's count(2)", y.count(2), 0);
+        Due.isTrue("some went, some did not: " + wentInAll, wentInAll > 5 && wentInAll < 28);
         BelievedByYard w = Due.withPlaces(0, 0);
         w.tale(0, 0, 0);
         w.road(0, 1, 0, 1);

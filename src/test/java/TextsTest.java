@@ -89,7 +89,7 @@ final class TextsTest {
         String signs = "byp019!(()+-*/%<=>&|dm";
         BelievedByYard x = new BelievedByYard();
         for (int run = 0; run < 6000; run++) {
-            if (run % 200 == 0) {
+            if (run % 20 == 0) {
                 x = new BelievedByYard();
             }
             int use = random.nextInt(2);

@@ -15,17 +15,8 @@ final class ThoughtTest {
         Due.end();
     }
 
-    /** 0 -5- 1 -5- 2 -5- 3 -5- 4 -5- 5 -5- 6 with no other ROADS. */
-    private static BelievedByYard chain() {
-        BelievedByYard x = Due.withPlaces(0, 0, 0, 0, 0, 0, 0);
-        for (int i = 0; i < 6; i++) {
-            x.road(i, i + 1, 0, 5);
-        }
-        return x;
-    }
-
     private static void reach() {
-        BelievedByYard x = chain();
+        BelievedByYard x = Worlds.chain();
         x.tale(0, 10, 0);
         for (int i = 0; i <= 5; i++) {
             Due.is("reach(0, " + i + ", 0)", x.reach(0, i, 0), i);
@@ -119,7 +110,7 @@ final class ThoughtTest {
         Due.is("cheap(-1, 0, 0)", x.cheap(-1, 0, 0), Due.BEYOND);
         Due.is("cheap(0, 4, 2): BEYOND is asked first", x.cheap(0, 4, 2), Due.BEYOND);
         Due.is("cheap(0, 0, -1)", x.cheap(0, 0, -1), Due.BEYOND);
-        BelievedByYard y = chain();
+        BelievedByYard y = Worlds.chain();
         y.tale(0, 0, 6);
         for (int i = 0; i < 6; i++) {
             y.road(i, i + 1, 0, 99);
@@ -130,7 +121,7 @@ final class ThoughtTest {
     }
 
     private static void can() {
-        BelievedByYard x = chain();
+        BelievedByYard x = Worlds.chain();
         x.tale(0, 0, 2);
         Due.is("can(0, 0)", x.can(0, 0), 4);
         Due.is("can(0, 1)", x.can(0, 1), 10);
@@ -181,29 +172,29 @@ final class ThoughtTest {
         x.road(1, 3, 0, 4);
         x.road(0, 2, 0, 3);
         x.road(2, 3, 0, 3);
-        sheet(x, 5);
+        Worlds.sheet(x, 0, 16, 5);
         Due.is("from of no STEPS", x.from(0, 0, 0), 1);
         Due.is("its PLACE", x.from(0, 0, 1), 1);
-        sheet(x, 6);
+        Worlds.sheet(x, 0, 16, 6);
         Due.is("from of other MARKS", x.from(0, 0, 0), 0);
         Due.is("its PLACE", x.from(0, 0, 1), Due.NONE);
-        sheet(x, 5, 8);
+        Worlds.sheet(x, 0, 16, 5, 8);
         Due.is("from of one STEP: to 0 or 2", x.from(0, 0, 0), 2);
         Due.is("the least of them", x.from(0, 0, 1), 0);
-        sheet(x, 5, 9);
+        Worlds.sheet(x, 0, 16, 5, 9);
         Due.is("from of the other ROAD", x.from(0, 0, 0), 1);
         Due.is("its PLACE", x.from(0, 0, 1), 3);
-        sheet(x, 5, 8, 11);
+        Worlds.sheet(x, 0, 16, 5, 8, 11);
         Due.is("from of two STEPS: 0 1, 0 2, 2 1, 2 0, 2 3", x.from(0, 0, 0), 5);
         Due.is("the least of them", x.from(0, 0, 1), 0);
-        sheet(x, 5, 8, 11, 14, 17);
+        Worlds.sheet(x, 0, 16, 5, 8, 11, 14, 17);
         Due.is("from of four STEPS", x.from(0, 0, 0), rows(x, 1, 4));
-        sheet(x, 5, 9, 13, 17, 21);
+        Worlds.sheet(x, 0, 16, 5, 9, 13, 17, 21);
         Due.is("from of four STEPS, to and fro", x.from(0, 0, 0), 1);
         Due.is("its PLACE", x.from(0, 0, 1), 1);
-        sheet(x, 5, 8, 11, 14, 17, 20);
+        Worlds.sheet(x, 0, 16, 5, 8, 11, 14, 17, 20);
         Due.is("from of six numbers", x.from(0, 0, 0), Due.NONE);
-        sheet(x);
+        Worlds.sheet(x, 0, 16);
         Due.is("from of none", x.from(0, 0, 0), Due.NONE);
         Due.is("from of a missing SHEET", x.from(1, 0, 0), Due.NONE);
         Due.is("from(4, 0, 0)", x.from(4, 0, 0), Due.BEYOND);
@@ -212,13 +203,6 @@ final class ThoughtTest {
         Due.is("from(1, -1, 0)", x.from(1, -1, 0), Due.BEYOND);
         Due.is("from(1, 0, 2)", x.from(1, 0, 2), Due.BEYOND);
         Due.is("from(1, 0, -1)", x.from(1, 0, -1), Due.BEYOND);
-    }
-
-    private static void sheet(BelievedByYard x, int... numbers) {
-        x.sheet(0, 16, numbers.length);
-        for (int i = 0; i < numbers.length; i++) {
-            x.put(0, i, numbers[i]);
-        }
     }
 
     /** ROWS of n STEPS by ROADS of 3 YARDS alone. */
