@@ -15,6 +15,8 @@ final class RefusedTest {
     private static List<Integer> like;
 
     public static void main(String[] args) {
+        Sentence.ofTerms("Each act tells its ERRORS in the order in which they are asked; "
+            + "one that answers an ERROR changes nothing but what told() tells.");
         Due.about("a new object");
         in(BelievedByYard::new);
         onNothing();

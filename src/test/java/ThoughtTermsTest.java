@@ -500,6 +500,8 @@ final class ThoughtTermsTest {
         says(53, 2, 1, 10, 26 - (1 - 3));
         Sentence.ofTerms("WIFE: 70 limps: super.limps(x) ^ n");
         says(63, 2, 2, 10, -7 ^ 2);
+        says(63, 3, 2, 10, -6);
+        says(63, 6, 2, 10, -1);
         Sentence.ofTerms("71 tells: grows(x) - super.tells(x)");
         says(63, 2, 3, 10, 24 - (24 ^ -7 ^ 2));
         Sentence.ofTerms("or of the next KIND above that has one");
